@@ -876,20 +876,18 @@ public final class SameMan {
         }
 
         int debtOf(int p) {
-            int all = 0;
-            for (int q = 0; q < size; q++) {
-                if (alike(p, q)) {
-                    all += debts[q];
-                }
-            }
-            return all;
+            return totalOf(debts, p);
         }
 
         int wealthOf(int p) {
+            return totalOf(wealths, p);
+        }
+
+        private int totalOf(int[] money, int p) {
             int all = 0;
             for (int q = 0; q < size; q++) {
                 if (alike(p, q)) {
-                    all += wealths[q];
+                    all += money[q];
                 }
             }
             return all;
@@ -1293,17 +1291,13 @@ public final class SameMan {
             if (!advance()) {
                 return false;
             }
-            one.kind = kindSaid();
-            return one.kind >= 0 || refuse(OUT_OF_PLACE, start);
-        }
-
-        private int kindSaid() {
-            return says("plain") ? PLAIN
+            one.kind = says("plain") ? PLAIN
                     : says("dead") ? DEAD
                     : says("foreign") ? FOREIGN
                     : says("mute") ? MUTE
                     : says("twin") ? TWIN
                     : BAD;
+            return one.kind != BAD || refuse(OUT_OF_PLACE, start);
         }
 
         private boolean tellList() {
@@ -1407,19 +1401,21 @@ public final class SameMan {
             } else if (within(first, '0', '9')) {
                 token = NUMBER;
                 next = endOfRun(start, '0', '9');
-                return next - start <= MOST_FIGURES ? takeFigures() : refuse(NO_TOKEN, start);
+                if (next - start > MOST_FIGURES) {
+                    return refuse(NO_TOKEN, start);
+                }
+                takeFigures();
             } else {
                 return refuse(NO_TOKEN, start);
             }
             return true;
         }
 
-        private boolean takeFigures() {
+        private void takeFigures() {
             number = 0;
-            for (int i = start; i < next; i++) {
-                number = 10 * number + byteAt(i) - '0';
+            for (int i = start; i < next && i < tape.length; i++) {
+                number = 10 * number + tape.bytes[i] - '0';
             }
-            return true;
         }
 
         private int endOfRun(int from, int least, int most) {

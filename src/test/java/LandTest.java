@@ -61,13 +61,15 @@ public final class LandTest {
         Check.due("fee", x.fee(0), SameMan.BAD);
         Check.due("fee", x.fee(10), SameMan.BAD);
         Check.due("fee", x.fee(1), 9);
-        Check.due("debt", x.debt(0, 99), 1);
+        Check.due("debt", x.debt(0, 0), 1);
+        Check.due("debt", x.debt(0, 99), 0);
         Check.due("debt", x.debt(0, 100), SameMan.BAD);
         Check.due("debt", x.debt(0, -1), SameMan.BAD);
         Check.due("debt", x.debt(4, 1), SameMan.BAD);
         Check.due("debt", x.debt(-1, 1), SameMan.BAD);
         Check.due("debt", x.one(0, 1), 99);
-        Check.due("wealth", x.wealth(1, 99), 4);
+        Check.due("wealth", x.wealth(1, 0), 4);
+        Check.due("wealth", x.wealth(1, 99), 0);
         Check.due("wealth", x.wealth(1, 100), SameMan.BAD);
         Check.due("wealth", x.wealth(1, -1), SameMan.BAD);
         Check.due("wealth", x.wealth(4, 1), SameMan.BAD);
@@ -97,6 +99,18 @@ public final class LandTest {
         Check.due("bear", x.bear(0), SameMan.FULL);
         Check.due("bear", x.bear(2), SameMan.BAD);
         Check.due("people", x.rule(0), 8);
+        for (int i = 0; i < 2; i++) {
+            x = Check.told("one twin a 9 8;list bc;");
+            x.keep(0);
+            Check.tape(x, "list b;");
+            x.text();
+            Check.tape(x, "list bc;");
+            x.text();
+            Check.due("bear where somebody was", x.bear(0), 0);
+            for (int what = 0; what < 4; what++) {
+                Check.due("child " + what, x.one(0, what), what == 3 ? 2 : 0);
+            }
+        }
     }
 
     private static void wed() {

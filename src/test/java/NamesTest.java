@@ -28,6 +28,9 @@ public final class NamesTest {
         Check.due("change", x.change(0, 9999, 0), SameMan.NONE);
         Check.due("z is the last", x.change(1, 52, 0), 6);
         Check.due("z is the last", x.change(1, 53, 0), SameMan.NONE);
+        Check.due("nothing is behind z", x.change(1, 25, 0), SameMan.NONE);
+        Check.due("nothing is behind z", x.change(1, 26, 0), SameMan.NONE);
+        Check.due("nothing is behind z", x.change(1, 0, 0), SameMan.NONE);
         int[] wrong = {-1, 1, 9, 12, 30, Integer.MIN_VALUE, Integer.MAX_VALUE};
         for (int what : wrong) {
             Check.due("what " + what, x.change(0, 27, what), SameMan.BAD);
@@ -216,6 +219,9 @@ public final class NamesTest {
         // c and b, b and c: 7, 8; d and a 6
         Check.due("match by law 1", x.match(0), 10091);
         Check.due("match by law 1", x.match(1), 40);
+        x = Check.told("one plain a 0 1;one plain b 0 2;one plain b 0 40;");
+        Check.due("each wedding by itself", x.match(0), 10042);
+        Check.due("each wedding by itself", x.match(1), 12);
         x = Check.told("one twin a 5 0;one twin b 0 9;");
         Check.due("p's person", x.match(0), 10009);
         Check.due("p's person", x.match(1), 10);
@@ -235,6 +241,7 @@ public final class NamesTest {
         SameMan x = new SameMan();
         Check.due("none", x.crowd(0, 0), 0);
         Check.due("none", x.crowd(0, 1), 0);
+        Check.due("empty", x.crowd(1, 0), SameMan.STATE);
         Check.due("empty", x.crowd(3, 1), SameMan.STATE);
         int[][] wrong = {{-1, 0}, {4, 0}, {0, 2}, {0, -1}, {1, 2}};
         for (int[] w : wrong) {

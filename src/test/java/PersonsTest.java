@@ -5,6 +5,7 @@ public final class PersonsTest {
         persons();
         voters();
         wrong();
+        askedFirst();
         Check.finish("PersonsTest");
     }
 
@@ -55,6 +56,23 @@ public final class PersonsTest {
         Check.due("votes: a twin leaves a dead one", x.votes(), 3);
         Check.due("persons", x.persons(), 5);
         Check.due("lone", x.lone(), 1 + 2 + 16 + 32);
+    }
+
+    /** Each question alone, on an object that was asked none before. */
+    private static void askedFirst() {
+        String text = "one plain a 1 2;one plain b 3 4;one dead a 5 6;";
+        Check.due("sum", Check.told(text).sum(1), 2);
+        Check.due("person", Check.told(text).person(0), 5);
+        Check.due("persons", Check.told(text).persons(), 2);
+        Check.due("lone", Check.told(text).lone(), 2);
+        Check.due("owes", Check.told(text).owes(2), 6);
+        Check.due("has", Check.told(text).has(0), 8);
+        Check.due("votes", Check.told(text).votes(), 2);
+        Check.due("heirs", Check.told(text).heirs(1), 1);
+        Check.due("rid", Check.told(text).rid(0, 0), 10002);
+        Check.due("match", Check.told(text).match(0), 10002);
+        Check.due("crowd", Check.told(text).crowd(0, 1), 2);
+        Check.due("part", Check.told(text).part(0), SameMan.NONE);
     }
 
     private static void wrong() {

@@ -22,7 +22,9 @@ public final class SheetsTest {
         Check.due("images", x.count(1), 1);
         x.law(0);
         x.fee(9);
+        x.letter(0, 33);
         x.letter(1, 0);
+        x.letter(25, 33);
         x.become(0, 0);
         x.become(1, 0);
         x.wed(0, 1);
@@ -36,7 +38,9 @@ public final class SheetsTest {
         Check.due("back", x.back(0), 2);
         Check.due("law", x.rule(1), 1);
         Check.due("fee", x.rule(2), 4);
+        Check.due("worth", x.worth(0), 1);
         Check.due("worth", x.worth(1), 7);
+        Check.due("worth", x.worth(25), 26);
         Check.due("kind", x.one(0, 0), 4);
         Check.due("debt", x.one(0, 1), 1);
         Check.due("wealth", x.one(1, 2), 4);
@@ -82,10 +86,14 @@ public final class SheetsTest {
         Check.due("lay on nothing", x.lay(1, 99, 1), -11);
         Check.due("a size below 0 leaves it", x.sheet(0, 0, -1), -14);
         Check.due("cells", x.count(3), 40);
-        x.lay(0, 1, 9);
+        for (int i = 0; i < 40; i++) {
+            x.lay(0, i, 9);
+        }
         x.sheet(0, 2, 40);
-        Check.due("a new row", x.read(0, 2, 0, 1), 1);
+        x.letter(0, 5);
+        Check.due("a new row", x.read(0, 2, 0, 20), 20);
         Check.due("of cells 0", x.worth(0), 0);
+        Check.due("of cells 0", x.worth(9), 10);
     }
 
     private static void lanes() {

@@ -7,6 +7,7 @@ public final class TextTest {
         tape();
         taken();
         takenInPlaceOfAll();
+        takenAgain();
         refusedChangesNothing();
         tokens();
         ends();
@@ -113,6 +114,29 @@ public final class TextTest {
         Check.due("blanks alone", x.text(), 0);
     }
 
+    private static void takenAgain() {
+        SameMan x = Check.told(AT_MOST_TOLD);
+        for (int i = 0; i < 3; i++) {
+            Check.tape(x, "one plain cde 0 0;list c d;letter b 9;");
+            Check.due("text", x.text(), 3);
+            Check.due("people", x.rule(0), 1);
+            Check.due("kind", x.one(0, 0), 0);
+            Check.due("letters", x.one(0, 3), 3);
+            Check.due("letter", x.one(0, 10), 2);
+            Check.due("law", x.rule(1), 0);
+            Check.due("fee", x.rule(2), 1);
+            Check.due("list", x.rule(3), 2);
+            Check.due("listed", x.listed(0, 0), 1);
+            Check.due("worth a", x.worth(0), 1);
+            Check.due("worth b", x.worth(1), 9);
+            Check.due("known", x.count(0), 0);
+        }
+        for (int i = 0; i < 3; i++) {
+            Check.tape(x, AT_MOST_TOLD);
+            Check.due("all that may be told once is told again", x.text(), 6);
+        }
+    }
+
     private static void refusedChangesNothing() {
         SameMan x = Check.told(AT_MOST_TOLD);
         x.keep(0);
@@ -175,6 +199,10 @@ public final class TextTest {
         said("lawn 1;", -10, 2);
         said("la 1;", -10, 2);
         said("plain 1;", -10, 2);
+        said("saw 1;", -10, 2);
+        said("lew 1;", -10, 2);
+        said("lax 1;", -10, 2);
+        said("one blain a 1 1;", -14, 2);
         said(";", -10, 2);
         said("law a;", -14, 2);
         said("law ;", -14, 2);
@@ -256,6 +284,19 @@ public final class TextTest {
         said("one plain abcdefghijk 1000 1;", -20, 3);
         said("one king abcdefghijk 1 1;", -14, 2);
         said("letter abc 1000;", -17, 3);
+        said("1000 x", -10, 1);
+        said("law 1000 x", -14, 1);
+        said("law 1 1000 x", -16, 1);
+        said("letter 1000 x", -17, 1);
+        said("letter a 1000 x", -19, 1);
+        said("one 1000 x 1 x", -14, 1);
+        said("one twin 1000 x", -19, 1);
+        said("one twin a 1000 x", -21, 1);
+        said("list 1000 5", -15, 1);
+        said("list a 1000 5", -17, 1);
+        said("list abcdefghijk 5", -15, 3);
+        said("list a abcdefghijk 5", -17, 3);
+        said("known 1000 x", -16, 1);
     }
 
     private static void said(String text, int answer, int fault) {
