@@ -519,10 +519,10 @@ public final class SameMan {
             return BAD;
         }
         Sheet sheet = sheets[k];
-        int met = sheet.faultOfTaking(lane);
+        int met = 0;
         int came = 0;
         for (int i = 0; i < n && met == 0; i++) {
-            met = sheet.faultOfPair(f, i);
+            met = sheet.faultOfPair(lane, f, i);
             if (met == 0) {
                 if (!isLetterAndWorth(sheet.firstOfPair(f, i), sheet.secondOfPair(f, i))) {
                     return REFUSED_PAIR - i;
@@ -1473,12 +1473,11 @@ public final class SameMan {
             return i >= 0 && i < size ? 0 : INDEX;
         }
 
-        /** The machine takes nothing as of any lane: it finds NULL only where a cell is asked for. */
-        int faultOfTaking(int asLane) {
-            return there && lane != asLane ? CAST : 0;
-        }
-
-        int faultOfPair(int from, int pair) {
+        /** What the machine refuses is a pair that is asked for: where none is, no lane is a FAULT. */
+        int faultOfPair(int asLane, int from, int pair) {
+            if (there && lane != asLane) {
+                return CAST;
+            }
             int met = faultAt(from + 2 * pair);
             return met != 0 ? met : faultAt(from + 2 * pair + 1);
         }

@@ -748,7 +748,7 @@ final class Plain {
         }
     }
 
-    /** Here the machine itself finds the faults, as the document says that it does. */
+    /** Here the machine itself finds the faults, as the document says that it does, of each WORTH by itself. */
     int read(int k, int lane, int f, int n) {
         if (k < 0 || k > 3 || lane < 0 || lane > 2 || n < 0 || n > 20) {
             return BAD;
@@ -756,10 +756,10 @@ final class Plain {
         List<int[]> whole = new ArrayList<>();
         int met = 0;
         try {
-            byte[] bytes = lane == 0 ? (byte[]) sheets[k] : null;
-            short[] shorts = lane == 1 ? (short[]) sheets[k] : null;
-            int[] ints = lane == 2 ? (int[]) sheets[k] : null;
             for (int i = 0; i < n; i++) {
+                byte[] bytes = lane == 0 ? (byte[]) sheets[k] : null;
+                short[] shorts = lane == 1 ? (short[]) sheets[k] : null;
+                int[] ints = lane == 2 ? (int[]) sheets[k] : null;
                 int a = f + 2 * i;
                 int l = lane == 0 ? bytes[a] : lane == 1 ? shorts[a] : ints[a];
                 int v = lane == 0 ? bytes[a + 1] : lane == 1 ? shorts[a + 1] : ints[a + 1];

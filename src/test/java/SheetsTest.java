@@ -181,10 +181,19 @@ public final class SheetsTest {
         Check.due("torn", x.torn(), 3);
         Check.due("nothing", x.read(0, 0, -5, 1), 0);
         Check.due("torn", x.torn(), 1);
-        Check.due("taken as another lane, none read", x.read(2, 0, 0, 0), 0);
-        Check.due("torn", x.torn(), 3);
         Check.due("nothing, none read", x.read(0, 0, 0, 0), 0);
         Check.due("torn", x.torn(), 0);
+        for (int lane = 0; lane <= 2; lane++) {
+            x.read(2, 1, 0, 5);
+            Check.due("torn", x.torn(), 2);
+            Check.due("taken as lane " + lane + ", none read", x.read(2, lane, 0, 0), 0);
+            Check.due("none is refused where none is read", x.torn(), 0);
+        }
+        x.sheet(1, 0, 0);
+        Check.due("another lane without cells, none read", x.read(1, 1, 0, 0), 0);
+        Check.due("torn", x.torn(), 0);
+        Check.due("another lane without cells", x.read(1, 1, 0, 1), 0);
+        Check.due("torn", x.torn(), 3);
         int[] far = {-1, -2, 5, 40, Integer.MAX_VALUE, Integer.MAX_VALUE - 1, Integer.MIN_VALUE};
         for (int f : far) {
             x.read(2, 1, 0, 0);
