@@ -983,8 +983,9 @@ public final class SameMan {
         private static final int ALL_SHIFT = 2 * LONGEST_NAME;
         private static final long NO_WAY = -1;
 
-        private long[] row = new long[MOST_SUM + 1];
-        private long[] nextRow = new long[MOST_SUM + 1];
+        private final long[] row = new long[MOST_SUM + 1];
+        private final int[] shares = new int[MOST_RAISE + 1];
+        private int choices;
         private int low;
         private int high;
 
@@ -993,29 +994,46 @@ public final class SameMan {
             high = 0;
             row[0] = 0;
             for (int i = 0; i < one.name.length; i++) {
-                addPlace(land, one, i);
+                takeShares(land, one, i);
+                addPlace(i);
             }
         }
 
-        private void addPlace(Land land, One one, int place) {
+        /** What the letter at a place adds to the sum, as it is and by each raise. */
+        private void takeShares(Land land, One one, int place) {
             int l = one.name.letterAt(place);
-            int most = Math.min(MOST_RAISE, LETTERS - 1 - l);
-            int least = land.shareOf(l, place, one.kind);
-            int greatest = least;
-            for (int r = 1; r <= most; r++) {
-                int share = land.shareOf(l + r, place, one.kind);
-                least = Math.min(least, share);
-                greatest = Math.max(greatest, share);
+            choices = Math.min(MOST_RAISE, LETTERS - 1 - l) + 1;
+            for (int r = 0; r < choices; r++) {
+                shares[r] = land.shareOf(l + r, place, one.kind);
             }
-            clearNext(low + least, high + greatest);
-            for (int r = 0; r <= most; r++) {
-                spread(land.shareOf(l + r, place, one.kind), r * unit(place));
+        }
+
+        /** Goes from the highest sum down, for an entry is made of those at lower sums as they were. */
+        private void addPlace(int place) {
+            int least = shares[0];
+            int greatest = shares[0];
+            for (int r = 1; r < choices; r++) {
+                least = Math.min(least, shares[r]);
+                greatest = Math.max(greatest, shares[r]);
+            }
+            int top = Math.min(high + greatest, MOST_SUM);
+            for (int s = top; s >= low + least && s >= 0; s--) {
+                row[s] = leastEntry(s, unit(place));
             }
             low += least;
-            high += greatest;
-            long[] old = row;
-            row = nextRow;
-            nextRow = old;
+            high = top;
+        }
+
+        private long leastEntry(int s, long unit) {
+            long least = NO_WAY;
+            for (int r = 0; r < choices; r++) {
+                int rest = s - shares[r];
+                if (reach(rest)) {
+                    long entry = row[rest] + r * unit;
+                    least = least == NO_WAY ? entry : Math.min(least, entry);
+                }
+            }
+            return least;
         }
 
         /** One raise of the letter at a place, as an entry tells it. */
@@ -1025,25 +1043,6 @@ public final class SameMan {
 
         private static int shiftOf(int place) {
             return 2 * (LONGEST_NAME - 1 - place);
-        }
-
-        private void clearNext(int from, int to) {
-            for (int s = Math.max(from, 0); s <= to && s <= MOST_SUM; s++) {
-                nextRow[s] = NO_WAY;
-            }
-        }
-
-        /** Goes on from every sum there is by a share of the next letter. */
-        private void spread(int share, long cost) {
-            for (int s = Math.max(low, 0); s <= high && s + share <= MOST_SUM; s++) {
-                if (row[s] != NO_WAY) {
-                    long entry = row[s] + cost;
-                    int t = s + share;
-                    if (nextRow[t] == NO_WAY || entry < nextRow[t]) {
-                        nextRow[t] = entry;
-                    }
-                }
-            }
         }
 
         boolean reach(int s) {

@@ -179,8 +179,10 @@ public final class SheetsTest {
         Check.due("torn", x.torn(), 3);
         Check.due("another lane, an index too", x.read(2, 2, -5, 1), 0);
         Check.due("torn", x.torn(), 3);
-        Check.due("nothing", x.read(0, 0, -5, 1), 0);
-        Check.due("torn", x.torn(), 1);
+        for (int lane = 0; lane <= 2; lane++) {
+            Check.due("nothing, taken as lane " + lane, x.read(0, lane, -5, 1), 0);
+            Check.due("torn", x.torn(), 1);
+        }
         Check.due("nothing, none read", x.read(0, 0, 0, 0), 0);
         Check.due("torn", x.torn(), 0);
         for (int lane = 0; lane <= 2; lane++) {
