@@ -22,18 +22,7 @@ final class Check {
 
     /** Puts a text on the tape, which is empty. */
     static void tape(SameMan man, String text) {
-        StringBuilder padded = new StringBuilder(text);
-        while (padded.length() % 8 != 0) {
-            padded.append(' ');
-        }
-        for (int i = 0; i < padded.length(); i += 8) {
-            long v = 0;
-            for (int j = i; j < i + 8; j++) {
-                v = v << 8 | padded.charAt(j) & 0xff;
-            }
-            man.feed(v);
-        }
-        man.end(text.length());
+        Script.tape(man, text);
     }
 
     /** A new object that was told a text, which has no fault. */

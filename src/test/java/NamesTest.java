@@ -107,11 +107,11 @@ public final class NamesTest {
     private static void changeByAllNames() {
         int[] worths = {3, 0, 5, 3, 1, 4, 1, 2};
         int[] name = {3, 0, 2, 4};
-        SameMan x = Check.told("fee 2;one plain dace 0 0;");
-        for (int l = 0; l < worths.length; l++) {
-            x.letter(l, worths[l]);
-        }
         for (int law = 0; law < 2; law++) {
+            SameMan x = Check.told("fee 2;one plain dace 0 0;");
+            for (int l = 0; l < worths.length; l++) {
+                x.letter(l, worths[l]);
+            }
             x.law(law);
             for (int s = 0; s <= 52; s++) {
                 int least = 99;

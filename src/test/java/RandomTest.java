@@ -5,12 +5,15 @@ import java.util.Random;
 /** All promises: long runs of calls, by fixed seeds, asked of the class and of Plain. */
 public final class RandomTest {
     private static final int RUNS = 1500;
-    private static final int CALLS = 300;
+
+    /** A step may be a text, of some 110 calls; beyond 512 what an object answers is free. */
+    private static final int CALLS = 390;
 
     private final Random random;
     private final SameMan man = new SameMan();
     private final Plain plain = new Plain();
     private final List<String> said = new ArrayList<>();
+    private int calls = 0;
 
     private RandomTest(long seed) {
         random = new Random(seed);
@@ -26,9 +29,10 @@ public final class RandomTest {
 
     private void go() {
         tell();
-        for (int i = 0; i < CALLS && Check.wrong() == 0; i++) {
+        while (calls < CALLS && Check.wrong() == 0) {
             step();
         }
+        Check.due("at most 512 calls, of " + calls, calls <= 512 ? 1 : 0, 1);
         if (Check.wrong() != 0) {
             said.forEach(System.out::println);
         }
@@ -60,6 +64,7 @@ public final class RandomTest {
     }
 
     private void due(String call, int got, int want) {
+        calls++;
         said.add(call + " -> " + want);
         Check.due(call, got, want);
     }

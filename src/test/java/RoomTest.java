@@ -10,7 +10,10 @@ import java.util.Map;
 
 /** The room: an object is small, and its calls make nothing new. */
 public final class RoomTest {
-    private static final int ROUNDS = 2000;
+    private static final int OBJECTS = 500;
+
+    /** Each of some ninety calls: an object is used for no more than 512. */
+    private static final int ROUNDS = 4;
 
     /** one plain ab 1 2;list c ab;known 0 3;one twin b 3 4; */
     private static final long[] TEXT = {0x6f6e6520706c6169L, 0x6e20616220312032L, 0x3b6c697374206320L,
@@ -66,15 +69,18 @@ public final class RoomTest {
 
     private static void calls() {
         ThreadMXBean threads = (ThreadMXBean) ManagementFactory.getThreadMXBean();
-        SameMan x = new SameMan();
-        every(x);
+        SameMan[] men = new SameMan[OBJECTS];
+        for (int i = 0; i < OBJECTS; i++) {
+            men[i] = new SameMan();
+        }
+        every(new SameMan());
         long before = threads.getCurrentThreadAllocatedBytes();
-        for (int i = 0; i < ROUNDS; i++) {
-            every(x);
+        for (int i = 0; i < OBJECTS * ROUNDS; i++) {
+            every(men[i % OBJECTS]);
         }
         long made = threads.getCurrentThreadAllocatedBytes() - before;
         // one object of 16 bytes a round would be twice of this
-        Check.due("calls made " + made + " bytes", made < 8L * ROUNDS ? 1 : 0, 1);
+        Check.due("calls made " + made + " bytes", made < 8L * OBJECTS * ROUNDS ? 1 : 0, 1);
         Check.due("something was answered", kept != 0 ? 1 : 0, 1);
     }
 
