@@ -77,7 +77,15 @@ public final class FaceTest {
             Check.due(one + " is static", Modifier.isStatic(one.getModifiers()) ? 1 : 0, 1);
             for (Method method : one.getDeclaredMethods()) {
                 Check.due(method + " has a public name", open.contains(method.getName()) ? 1 : 0, 0);
+                Check.due(method + " takes at most seven", method.getParameterCount() <= 7 ? 1 : 0, 1);
             }
+            int fields = 0;
+            for (Field field : one.getDeclaredFields()) {
+                fields += Modifier.isStatic(field.getModifiers()) ? 0 : 1;
+                boolean constant = !Modifier.isStatic(field.getModifiers()) || Modifier.isFinal(field.getModifiers());
+                Check.due(field + " is no static state", constant ? 1 : 0, 1);
+            }
+            Check.due(one + " has at most twenty fields", fields <= 20 ? 1 : 0, 1);
         }
     }
 

@@ -260,6 +260,20 @@ public final class NamesEdgesTest {
         }
     }
 
+    /** ONES who are gone by back() are of no PERSON any more. */
+    static void promise27WhoIsGone() {
+        SameMan x = Check.told("one plain a 5 6;list a b;");
+        x.keep(0);
+        x.bear(0);
+        x.bear(1);
+        x.wealth(1, 90);
+        x.wealth(2, 80);
+        Edge.due("with both", x.rid(0, 0), 10091);
+        x.back(0);
+        Edge.due("alone", x.rid(0, 0), 10001);
+        Edge.due("alone", x.rid(0, 1), 1);
+    }
+
     // ---- promise 28
 
     /** "STATE: THE LIST is empty"; BAD goes ahead of it */
@@ -318,6 +332,19 @@ public final class NamesEdgesTest {
         Edge.due("the dead", x.call(1), 1);
         x = Check.told("one mute b 0 9;list z a;");
         Edge.due("letters 13 to 25 count", x.call(0), 10000);
+    }
+
+    /** ONES who are gone by back() are no child's PERSON any more. */
+    static void promise28WhoIsGone() {
+        SameMan x = Check.told("one plain c 0 0;list a b;");
+        x.keep(0);
+        x.bear(1);
+        x.wealth(1, 90);
+        Edge.due("with him", x.call(0), 10090);
+        Edge.due("with him", x.call(1), 1);
+        x.back(0);
+        Edge.due("without", x.call(0), 10000);
+        Edge.due("without", x.call(1), 0);
     }
 
     // ---- promise 29
@@ -386,6 +413,16 @@ public final class NamesEdgesTest {
         x.wealth(7, 9);
         x.become(6, 4);
         Edge.due("the last two, the other way", x.match(1), 76);
+    }
+
+    /** "The WEDDING": one alone, those that were looked at before leave no trace */
+    static void promise29EachByItself() {
+        SameMan x = Check.told("one plain a 0 0;one plain b 0 5;one plain b 0 7;");
+        Edge.due("it", x.match(0), 10012);
+        Edge.due("who", x.match(1), 12);
+        x = Check.told("one plain a 0 9;one plain a 0 1;one plain c 0 5;");
+        Edge.due("it", x.match(0), 10014);
+        Edge.due("who", x.match(1), 2);
     }
 
     /** Below 10000 there is one, too; the least that it can be. */
@@ -487,6 +524,17 @@ public final class NamesEdgesTest {
         }
         Edge.leaves("crowd(3, 1)", Edge::full, y -> y.crowd(3, 1), 5);
         Edge.leaves("crowd(3, 0)", Edge::full, y -> y.crowd(3, 0), 2);
+    }
+
+    /** ONES who are gone by back() can not be joined any more. */
+    static void promise30WhoIsGone() {
+        SameMan x = Check.told("one plain c 0 0;list a;");
+        x.keep(0);
+        x.bear(0);
+        Edge.due("with him", x.crowd(1, 0), 2);
+        x.back(0);
+        Edge.due("without", x.crowd(0, 0), 1);
+        Edge.due("without", x.crowd(1, 0), 2);
     }
 
     // ---- promise 31

@@ -266,6 +266,29 @@ public final class PersonsEdgesTest {
         Edge.due("of nobody", new SameMan().heirs(-1), SameMan.BAD);
     }
 
+    /** ONES who are gone by back() are of no PERSON any more: each question asked before and behind. */
+    static void promise25WhoIsGone() {
+        SameMan x = Check.told("one dead a 5 6;list a a;");
+        x.keep(0);
+        x.bear(0);
+        x.bear(1);
+        x.debt(1, 50);
+        x.wealth(2, 60);
+        int[] with = {7, 1, 0, 55, 66, 1, 6};
+        int[] without = {1, 1, 1, 5, 6, 0, 0};
+        for (int i = 0; i < 2; i++) {
+            int[] due = i == 0 ? with : without;
+            Edge.due("person", x.person(0), due[0]);
+            Edge.due("persons", x.persons(), due[1]);
+            Edge.due("lone", x.lone(), due[2]);
+            Edge.due("owes", x.owes(0), due[3]);
+            Edge.due("has", x.has(0), due[4]);
+            Edge.due("votes", x.votes(), due[5]);
+            Edge.due("heirs", x.heirs(1), due[6]);
+            x.back(0);
+        }
+    }
+
     /** What is asked of PERSONS changes nothing. */
     static void promise25AskingChangesNothing() {
         Edge.leaves("person", Edge::some, x -> x.person(4), Edge.some().person(4));

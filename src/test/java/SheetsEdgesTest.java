@@ -190,6 +190,15 @@ public final class SheetsEdgesTest {
         Edge.due("b is as it was", x.worth(1), 2);
         Edge.due("no other lane", x.read(2, 0, 0, 1), 0);
         Edge.due("torn", x.torn(), 3);
+        for (int n = 2; n <= 40; n += 2) {
+            int[] cells = new int[40];
+            java.util.Arrays.fill(cells, 9);
+            x = filled(1, cells);
+            x.sheet(2, 1, n);
+            Edge.due("read all of " + n, x.read(2, 1, 0, n / 2), n / 2);
+            Edge.due("a is 0", x.worth(0), 0);
+            Edge.due("j is as it was", x.worth(9), 10);
+        }
     }
 
     /** "BAD": no such SHEET, no such lane, "also n above 40" */

@@ -334,22 +334,26 @@ public final class TextEdgesTest {
 
     /** "A text that is taken tells all, in place of what there was; IMAGES are gone." */
     static void promise04TakenTellsAll() {
+        String most = "law 1;fee 9;letter c 40;one twin " + TEN + " 99 98;one dead z 97 96;list " + TEN + " z;known 1 5;known 0 9;";
         String[] texts = {"", "law 1;", "fee 2;", "letter c 9;", "one mute q 1 1;", "list q;", "list q;known 0 5;",
-            "one twin " + TEN + " 99 0;list " + TEN + " b;"};
+            "one twin q 99 0;list " + TEN + " b;", most};
         for (String text : texts) {
-            Edge.sameTold(text, () -> {
-                SameMan x = Edge.some();
-                x.end(0);
-                Check.tape(x, text);
-                x.text();
-                return x;
-            }, () -> {
-                SameMan x = new SameMan();
-                Check.tape(x, text);
-                x.text();
-                return x;
-            });
+            Edge.sameTold(text, () -> toldBehind(Edge.some(), text), () -> toldBehind(new SameMan(), text));
+            Edge.sameTold(text + " behind much", () -> toldBehind(Edge.some(), most, text), () -> toldBehind(new SameMan(), text));
+            Edge.sameTold(text + " behind much twice", () -> toldBehind(new SameMan(), most, most, text),
+                    () -> toldBehind(new SameMan(), text));
+            Edge.sameTold(text + " again", () -> toldBehind(new SameMan(), text, text, text), () -> toldBehind(new SameMan(), text));
         }
+    }
+
+    private static SameMan toldBehind(SameMan x, String... texts) {
+        for (String text : texts) {
+            x.end(0);
+            Check.tape(x, text);
+            x.text();
+            x.keep(1);
+        }
+        return x;
     }
 
     /** "IMAGES are gone", both of them; a refused text leaves them */
